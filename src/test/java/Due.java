@@ -1,0 +1,47 @@
+/** Counts and prints answers that are not the ones due. */
+final class Due {
+    private int asked;
+    private int wrong;
+
+    void is(String call, long got, long want) {
+        asked++;
+        if (got != want) {
+            wrong++;
+            System.out.println(call + " answered " + got + ", due is " + want);
+        }
+    }
+
+    void holds(String what, boolean so) {
+        asked++;
+        if (!so) {
+            wrong++;
+            System.out.println("does not hold: " + what);
+        }
+    }
+
+    boolean allRight() {
+        return wrong == 0;
+    }
+
+    /** Ends the test: with exit code 1, if an answer was wrong or none was asked. */
+    void end() {
+        System.out.println(asked + " answers, " + wrong + " not as due");
+        if (wrong != 0 || asked == 0) {
+            System.exit(1);
+        }
+    }
+
+    /** Writes a whole text on the PAD. */
+    static void write(StoneGhosts x, String text) {
+        for (int i = 0; i < text.length(); i++) {
+            x.say(text.charAt(i));
+        }
+    }
+
+    /** Writes and does a SHOP. */
+    static int shop(StoneGhosts x, String text) {
+        x.wipe();
+        write(x, text);
+        return x.done();
+    }
+}
