@@ -1,3 +1,5 @@
+import java.util.function.IntToLongFunction;
+
 /** Counts and prints answers that are not the ones due. */
 final class Due {
     private int asked;
@@ -16,6 +18,17 @@ final class Due {
         if (!so) {
             wrong++;
             System.out.println("does not hold: " + what);
+        }
+    }
+
+    /** Low and high are taken; what is beside them, and what is far from them, is refused. */
+    void range(String call, int low, int high, long refusal, IntToLongFunction with) {
+        for (int v : new int[] {low, low + 1, high - 1, high}) {
+            long got = with.applyAsLong(v);
+            holds(call + " with " + v + " is taken, answered " + got, got >= 0 || got == StoneGhosts.NONE);
+        }
+        for (int v : new int[] {low - 1, high + 1, -100000, 100000, Integer.MIN_VALUE, Integer.MAX_VALUE}) {
+            is(call + " with " + v, with.applyAsLong(v), refusal);
         }
     }
 
@@ -38,10 +51,15 @@ final class Due {
         }
     }
 
-    /** Writes and does a SHOP. */
-    static int shop(StoneGhosts x, String text) {
+    /** Writes a whole text on the PAD in place of what is there. */
+    static void rewrite(StoneGhosts x, String text) {
         x.wipe();
         write(x, text);
+    }
+
+    /** Writes and does a SHOP. */
+    static int shop(StoneGhosts x, String text) {
+        rewrite(x, text);
         return x.done();
     }
 }

@@ -1,12 +1,13 @@
 import java.util.Random;
 
-/** Promises 1 to 30: long runs of drawn calls, each answer held against the Oracle's. */
+/** Promises 1 to 30: runs of 512 drawn calls, each answer held against the Oracle's. */
 public final class RandomRunsTest {
     private final Due due;
     private final Random draws;
     private final StoneGhosts x = new StoneGhosts();
     private final Oracle o = new Oracle();
     private final int run;
+    private int calls;
 
     private RandomRunsTest(Due due, int run) {
         this.due = due;
@@ -16,13 +17,14 @@ public final class RandomRunsTest {
 
     public static void main(String[] args) {
         Due due = new Due();
-        for (int run = 0; run < 800 && due.allRight(); run++) {
+        for (int run = 0; run < 2400 && due.allRight(); run++) {
             new RandomRunsTest(due, run).go();
         }
         due.end();
     }
 
     private void is(String call, long got, long want) {
+        calls++;
         due.is("run " + run + ": " + call, got, want);
     }
 
@@ -43,7 +45,8 @@ public final class RandomRunsTest {
         if (run % 6 != 0) {
             setUp();
         }
-        for (int i = 0; i < 60 && due.allRight(); i++) {
+        // What is done at once takes up to 220 calls: a SHOP of eight parts.
+        while (calls < 512 - 220 && due.allRight()) {
             switch (draws.nextInt(8)) {
                 case 0: case 1: shop(); break;
                 case 2: change(); break;
@@ -54,7 +57,7 @@ public final class RandomRunsTest {
                 default: askShop(); break;
             }
         }
-        tellAll();
+        tellToTheEnd();
     }
 
     private void setUp() {
@@ -209,15 +212,21 @@ public final class RandomRunsTest {
         if (draws.nextInt(6) == 0) is("restore(" + k + ")", x.restore(k), o.restore(k));
     }
 
-    /** Every number that told() could know, and those beside. */
-    private void tellAll() {
-        for (int what = -3; what < 130; what++) is("told(" + what + ")", x.told(what), o.told(what));
-        for (int h = 1; h < 10; h++) {
-            for (int i = -2; i < 11; i++) {
-                is("told", x.told(100 * h + i), o.told(100 * h + i));
-                is("told", x.told(1000 * h + i), o.told(1000 * h + i));
-                is("told", x.told(10000 * h + i), o.told(10000 * h + i));
-            }
+    /** What is told at the end, up to the 512th call. */
+    private void tellToTheEnd() {
+        while (calls < 512) {
+            int what = toldNumber();
+            is("told(" + what + ")", x.told(what), o.told(what));
+        }
+    }
+
+    /** A number that told() knows, or one beside. */
+    private int toldNumber() {
+        switch (draws.nextInt(8)) {
+            case 0: return 1000 * (1 + draws.nextInt(9)) + draws.nextInt(6) - 1;
+            case 1: return 10000 + draws.nextInt(8) - 1;
+            case 2: case 3: case 4: return draws.nextInt(65) - 2;
+            default: return 100 * (1 + draws.nextInt(6)) + draws.nextInt(10) - 1;
         }
     }
 }
