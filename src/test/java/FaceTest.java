@@ -27,10 +27,21 @@ public final class FaceTest {
         "int UNKNOWN", "int OUTSIDE", "int STATE", "int FULL", "int NO", "int NONE", "long GONE"};
 
     public static void main(String[] args) throws IOException {
+        constants();
         members();
         insideClasses();
         words();
         DUE.end();
+    }
+
+    private static void constants() {
+        DUE.is("UNKNOWN", StoneGhosts.UNKNOWN, -1);
+        DUE.is("OUTSIDE", StoneGhosts.OUTSIDE, -2);
+        DUE.is("STATE", StoneGhosts.STATE, -3);
+        DUE.is("FULL", StoneGhosts.FULL, -4);
+        DUE.is("NO", StoneGhosts.NO, -5);
+        DUE.is("NONE", StoneGhosts.NONE, -6);
+        DUE.is("GONE", StoneGhosts.GONE, -1000000000000000000L);
     }
 
     private static String told(Method m) {

@@ -130,6 +130,15 @@ public final class GhostsEdgesTest {
         DUE.is("24: seven", y.whose(-1), 160);
         DUE.is("22: the eighth", y.seen(0, 0, true), 8);
         DUE.is("24: nothing is both", y.whose(-1), 0);
+        // Each of the eight counts, the one that showed and the one that did not.
+        for (int at = 0; at < 8; at++) {
+            StoneGhosts z = shallow(60);
+            for (int i = 0; i < 8; i++) z.seen(i == at ? 7 : 0, 0, false);
+            DUE.is("24: only the " + at + "-th tells: not more than 1", z.whose(0), 20);
+            z.forget();
+            for (int i = 0; i < 8; i++) z.seen(i == at ? 7 : 0, i == at ? 0 : 7, i == at);
+            DUE.is("24: only the " + at + "-th tells: more than 1", z.whose(-1), 19);
+        }
     }
 
     private static void sightsNumbers() {
@@ -221,6 +230,15 @@ public final class GhostsEdgesTest {
             x.forget();
             x.seen(1, n, false);
             DUE.is("24: not at pull " + n, x.whose(-1), 160 - fit);
+        }
+        // Worn to 0: one hundredth that is left is more; nothing is not.
+        for (int deep = 1; deep <= 60; deep++) {
+            StoneGhosts x = shallow(deep);
+            x.seen(7, 10, true);
+            DUE.is("24: DEEP " + deep + ", more than 0", x.whose(-1), (deep - 1) / 3);
+            x.forget();
+            x.seen(7, 999, false);
+            DUE.is("24: DEEP " + deep + ", not more than 0", x.whose(0), (deep - 1) / 3 + 1);
         }
         for (int fine = 1; fine <= 9; fine++) {
             StoneGhosts x = shallow(60);

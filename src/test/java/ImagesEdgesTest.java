@@ -12,6 +12,7 @@ public final class ImagesEdgesTest {
         notKept();
         restoredTwice();
         keptIsApart();
+        eightSightsKept();
         ofANewObject();
         pullsCountOn();
         toldOfNoStones();
@@ -144,6 +145,27 @@ public final class ImagesEdgesTest {
         as.image(0);
         as.restore(1);
         Snapshot.of(x).isAs(DUE, "29: both as kept", Snapshot.of(as));
+    }
+
+    /** Each of eight SIGHTS is kept: PICTURE, pull, and whether it showed. */
+    private static void eightSightsKept() {
+        for (int at = 0; at < 8; at++) {
+            StoneGhosts x = new StoneGhosts();
+            x.picture(0, 60, 1, 0);
+            // Only that one tells: A is more than 24 of C, up to 11 minutes; B of 30 is more than that, too.
+            for (int i = 0; i < 8; i++) x.seen(i == at ? 2 : 0, i == at ? 30 : 0, i == at);
+            int fit = x.whose(-1), last = x.whose(fit - 1);
+            DUE.is("24: A up to 11, six others for 1", fit, 17);
+            x.image(0);
+            x.forget();
+            for (int i = 0; i < 8; i++) x.seen(0, 0, false);
+            DUE.is("24: all fit", x.whose(-1), 160);
+            x.restore(0);
+            DUE.is("29: SIGHTS", x.told(4), 8);
+            DUE.is("29: as many fit, " + at, x.whose(-1), fit);
+            DUE.is("29: the last, " + at, x.whose(fit - 1), last);
+            DUE.is("29: all but C, " + at, x.suspects(), 251);
+        }
     }
 
     private static void ofANewObject() {

@@ -639,6 +639,15 @@ public final class ShopsEdgesTest {
                 DUE.is("14: the greatest, " + ghosts, x.sky(1), p);
             }
         }
+        // On each STONE.
+        for (char stone = 'a'; stone <= 'e'; stone++) {
+            StoneGhosts x = new StoneGhosts();
+            for (int s = 0; s < 5; s++) x.stone(s, 9000, 0, 10);
+            x.picture(0, 1, 1, 0);
+            Due.write(x, "aGax1aAa1".replace('a', stone));
+            DUE.is("14: on " + stone, x.sky(0), 1);
+            DUE.is("14: on " + stone, x.sky(1), 6);
+        }
         // On that STONE, and as it was at that pull.
         StoneGhosts y = one(9000, 0, 10);
         y.stone(1, 9000, 0, 10);

@@ -8,6 +8,7 @@ public final class StonesEdgesTest {
         stonesAreCounted();
         stoneNumbers();
         stoneAnew();
+        eachStoneAnew();
         smashed();
         pictureNumbers();
         pictureOnlyThat();
@@ -127,6 +128,26 @@ public final class StonesEdgesTest {
         DUE.is("2: b stays: FRESH", x.told(23), 0);
         DUE.is("2: b stays: pulls", x.told(24), 3);
         DUE.is("2: b stays: DAMP", x.told(22), 7);
+    }
+
+    /** FAT of each PICTURE on each STONE is its own. */
+    private static void eachStoneAnew() {
+        for (int anew = 0; anew < 5; anew++) {
+            StoneGhosts x = new StoneGhosts();
+            for (int s = 0; s < 5; s++) {
+                x.stone(s, 4000, 0, 10);
+                String all = "aAax1aBax1aCax1aDax1aEax1aFax1aGax1aHa1".replace('a', (char) ('a' + s));
+                DUE.is("2: drawn on " + s, Due.shop(x, all), 16);
+            }
+            DUE.is("2: anew, " + anew, x.stone(anew, 3500, 1, 2), 5);
+            for (int s = 0; s < 5; s++) {
+                for (int p = 0; p < 8; p++) {
+                    DUE.is("2: anew " + anew + ", FAT of " + p + " on " + s, x.told(100 * (1 + s) + p), s == anew ? 0 : 9 + 3 * p);
+                }
+                DUE.is("2: anew " + anew + ", FRESH on " + s, x.told(10 * (1 + s) + 3), s == anew ? -6 : 7);
+                DUE.is("2: anew " + anew + ", pulls on " + s, x.told(10 * (1 + s) + 4), s == anew ? 0 : 1);
+            }
+        }
     }
 
     /** "A STONE is no more: how many are. UNKNOWN: there was none." */
