@@ -12,7 +12,7 @@ import java.util.TreeSet;
 import java.util.regex.Matcher;
 import java.util.regex.Pattern;
 
-/** The document's face, and those rules of LANGUAGE.md that can be seen from outside. */
+/** Promises 1 to 30: the document's face, and those rules of LANGUAGE.md that can be seen from outside. */
 public final class FaceTest {
     private static final Due DUE = new Due();
     private static final String[] FACE = {

@@ -311,7 +311,7 @@ public final class ImagesEdgesTest {
             DUE.is("30: pulls behind " + n, x.told(14), 9 * (n - 1));
             calls += 5;
         }
-        DUE.is("512 calls: the last", x.told(100), 0);
+        DUE.is("30: the 512th call", x.told(100), 0);
         // Call after call of what an object keeps: nothing runs full but the PAD and the SIGHTS.
         StoneGhosts y = new StoneGhosts();
         for (int i = 0; i < 128; i++) {

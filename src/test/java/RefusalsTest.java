@@ -95,20 +95,20 @@ public final class RefusalsTest {
         DUE.is("22: full, SIGHTS", full().told(4), 8);
         DUE.holds("24: full, some fit", full().whose(-1) > 0);
         Snapshot as = Snapshot.of(rich());
-        as.isAs(DUE, "the same twice", Snapshot.of(rich()));
-        sees("stone", as, x -> x.stone(0, 3300, 11, 15));
-        sees("smash", as, x -> x.smash(2));
-        sees("picture", as, x -> x.picture(7, 30, 5, 11));
-        sees("set", as, x -> x.set(0, 22));
-        sees("hairs", as, x -> x.hairs(0, 1));
-        sees("say", as, x -> x.say('a'));
-        sees("wipe", as, x -> x.wipe());
-        sees("done", as, x -> x.done());
-        sees("seen", as, x -> x.seen(0, 0, true));
-        sees("forget", as, x -> x.forget());
-        sees("image(0)", as, x -> x.image(0));
-        sees("image(1)", as, x -> x.image(1));
-        sees("restore", as, x -> x.restore(0));
+        as.isAs(DUE, "30: the same twice", Snapshot.of(rich()));
+        sees("2: stone", as, x -> x.stone(0, 3300, 11, 15));
+        sees("3: smash", as, x -> x.smash(2));
+        sees("4: picture", as, x -> x.picture(7, 30, 5, 11));
+        sees("5: set", as, x -> x.set(0, 22));
+        sees("6: hairs", as, x -> x.hairs(0, 1));
+        sees("7: say", as, x -> x.say('a'));
+        sees("8: wipe", as, x -> x.wipe());
+        sees("15: done", as, x -> x.done());
+        sees("22: seen", as, x -> x.seen(0, 0, true));
+        sees("23: forget", as, x -> x.forget());
+        sees("28: image(0)", as, x -> x.image(0));
+        sees("28: image(1)", as, x -> x.image(1));
+        sees("29: restore", as, x -> x.restore(0));
     }
 
     private static void sees(String what, Snapshot as, ToLongFunction<StoneGhosts> call) {
