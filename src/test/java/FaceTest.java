@@ -5,8 +5,10 @@ import java.lang.reflect.Method;
 import java.lang.reflect.Modifier;
 import java.nio.file.Files;
 import java.nio.file.Path;
+import java.util.ArrayList;
 import java.util.Arrays;
 import java.util.HashSet;
+import java.util.List;
 import java.util.Set;
 import java.util.TreeSet;
 import java.util.regex.Matcher;
@@ -30,7 +32,10 @@ public final class FaceTest {
         constants();
         members();
         insideClasses();
+        parameters();
+        staticFields();
         words();
+        methodsAreShort();
         DUE.end();
     }
 
@@ -96,10 +101,58 @@ public final class FaceTest {
         }
     }
 
+    private static List<Class<?>> allClasses() {
+        List<Class<?>> all = new ArrayList<>(Arrays.asList(StoneGhosts.class.getDeclaredClasses()));
+        all.add(StoneGhosts.class);
+        return all;
+    }
+
+    /** Rule 11: a method takes at most seven parameters. */
+    private static void parameters() {
+        for (Class<?> c : allClasses()) {
+            for (Method m : c.getDeclaredMethods()) {
+                DUE.holds(m + " takes seven at most", m.getParameterCount() <= 7);
+            }
+        }
+    }
+
+    /** Rule 5: static fields are final, and constants; rule 11: some twenty fields beside these. */
+    private static void staticFields() {
+        int own = 0;
+        for (Field f : StoneGhosts.class.getDeclaredFields()) {
+            boolean isStatic = Modifier.isStatic(f.getModifiers());
+            own += isStatic ? 0 : 1;
+            DUE.holds(f + " is final", Modifier.isFinal(f.getModifiers()));
+            DUE.holds(f + " is a constant", !isStatic || f.getType() == int.class || f.getType() == long.class);
+        }
+        DUE.holds("twenty fields at most", own <= 20);
+    }
+
+    private static String code() throws IOException {
+        String source = Files.readString(Path.of("src/main/java/StoneGhosts.java"));
+        return source.replaceAll("(?s)/\\*.*?\\*/", "").replaceAll("//[^\n]*", "");
+    }
+
+    /** Rule 11: methods stay short (some sixty lines). */
+    private static void methodsAreShort() throws IOException {
+        String[] lines = code().split("\n");
+        int methods = 0;
+        for (int i = 0; i < lines.length; i++) {
+            Matcher head = Pattern.compile("( +)[\\w\\[\\] ]*\\b(\\w+)\\([^;]*").matcher(lines[i]);
+            if (!head.matches() || head.group(1).length() > 8 || !lines[i].endsWith(") {") || lines[i].matches(" *(if|for|while|switch)\\b.*")) {
+                continue;
+            }
+            methods++;
+            int end = i;
+            while (end < lines.length && !lines[end].equals(head.group(1) + "}")) end++;
+            DUE.holds(head.group(2) + " is short", end - i < 60);
+        }
+        DUE.holds("methods are found: " + methods, methods > 80);
+    }
+
     /** The source without comments has no word that LANGUAGE.md rules out. */
     private static void words() throws IOException {
-        String source = Files.readString(Path.of("src/main/java/StoneGhosts.java"));
-        String code = source.replaceAll("(?s)/\\*.*?\\*/", "").replaceAll("//[^\n]*", "");
+        String code = code();
         Pattern bad = Pattern.compile("\\b(throw|throws|try|catch|finally|synchronized|assert|import|package|"
             + "protected|double|float|equals|hashCode|toString|volatile|native|Random|Thread)\\b"
             + "|\\w+Exact\\b|->|::|\"");
